@@ -1,0 +1,44 @@
+/** Compares answers with what is due, prints those that differ, and ends a test with exit code 1 if any did. */
+final class Check {
+    interface Call {
+        Object answer();
+    }
+
+    private static int checked = 0;
+    private static int wrong = 0;
+
+    private Check() {
+    }
+
+    static void due(String what, Object got, Object want) {
+        checked++;
+        if (!want.equals(got)) {
+            wrong++;
+            System.out.println(what + " answered " + got + ", due is " + want);
+        }
+    }
+
+    /** The class has to be the very one: an exception of the machine's own, of a class below it, is wrong. */
+    static void throwsIt(String what, Class<? extends RuntimeException> want, Call call) {
+        due(what, answerOrThrown(call), "throws." + want.getSimpleName());
+    }
+
+    static Object answerOrThrown(Call call) {
+        try {
+            return call.answer();
+        } catch (RuntimeException e) {
+            return "throws." + e.getClass().getSimpleName();
+        }
+    }
+
+    static int wrongs() {
+        return wrong;
+    }
+
+    static void end() {
+        System.out.println(checked + " answers looked at, " + wrong + " not as due");
+        if (wrong != 0 || checked == 0) {
+            System.exit(1);
+        }
+    }
+}
