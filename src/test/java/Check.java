@@ -27,8 +27,14 @@ final class Check {
         try {
             return call.answer();
         } catch (RuntimeException e) {
-            return "throws." + e.getClass().getSimpleName();
+            return "throws." + e.getClass().getSimpleName() + (isThrownByLibrary(e) ? " by the Java library" : "");
         }
+    }
+
+    /** A list would throw the very class that the document wants for a number that is too large. */
+    private static boolean isThrownByLibrary(RuntimeException e) {
+        StackTraceElement[] trace = e.getStackTrace();
+        return trace.length == 0 || trace[0].getClassName().matches("(java|jdk)\\..*");
     }
 
     static int wrongs() {
