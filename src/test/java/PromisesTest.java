@@ -1,13 +1,5 @@
-import java.util.NoSuchElementException;
-
 /** Each promise by itself: ordinary inputs, the edges that the document names, and wrong inputs. */
 public final class PromisesTest {
-    private static final Class<IndexOutOfBoundsException> INDEX = IndexOutOfBoundsException.class;
-    private static final Class<IllegalArgumentException> ARGUMENT = IllegalArgumentException.class;
-    private static final Class<IllegalStateException> STATE = IllegalStateException.class;
-    private static final Class<UnsupportedOperationException> UNSUPPORTED = UnsupportedOperationException.class;
-    private static final Class<NoSuchElementException> NO_ELEMENT = NoSuchElementException.class;
-    private static final Class<ArithmeticException> ARITHMETIC = ArithmeticException.class;
     private static final int[] FAR_OUT = {Integer.MIN_VALUE, -1, 30, 1000, Integer.MAX_VALUE};
 
     public static void main(String[] args) {
@@ -45,18 +37,6 @@ public final class PromisesTest {
         Check.end();
     }
 
-    /** A building with lifts of these capacities, and eight badges: two of each tenant, 0 and 4 of the tenant 0. */
-    private static LiftDesk desk(int... capacities) {
-        LiftDesk desk = new LiftDesk();
-        for (int capacity : capacities) {
-            desk.addLift(capacity);
-        }
-        for (int i = 0; i < 8; i++) {
-            desk.addBadge(i % 4);
-        }
-        return desk;
-    }
-
     private static void due(String what, Object got, Object want) {
         Check.due(what, got, want);
     }
@@ -68,10 +48,10 @@ public final class PromisesTest {
         due("1: opened", desk.opened(), 0);
         due("1: refused", desk.refused(), 0);
         due("1: isAlarm", desk.isAlarm(), false);
-        Check.throwsIt("1: a lift", INDEX, () -> desk.service(0));
-        Check.throwsIt("1: a badge", INDEX, () -> desk.setRevoked(0, true));
-        Check.throwsIt("1: a rider", INDEX, () -> desk.state(0));
-        LiftDesk other = desk(1);
+        Check.throwsIt("1: a lift", Check.INDEX, () -> desk.service(0));
+        Check.throwsIt("1: a badge", Check.INDEX, () -> desk.setRevoked(0, true));
+        Check.throwsIt("1: a rider", Check.INDEX, () -> desk.state(0));
+        LiftDesk other = Desks.of(1);
         due("1: a second object has its own lifts", Check.answerOrThrown(() -> desk.service(0)),
                 "throws.IndexOutOfBoundsException");
         due("1: time of the second", other.time(), 0);
@@ -80,14 +60,14 @@ public final class PromisesTest {
     private static void addLift() {
         LiftDesk desk = new LiftDesk();
         for (int capacity : new int[] {Integer.MIN_VALUE, -1, 0, 5, 6, Integer.MAX_VALUE}) {
-            Check.throwsIt("2: addLift(" + capacity + ")", ARGUMENT, () -> desk.addLift(capacity));
+            Check.throwsIt("2: addLift(" + capacity + ")", Check.ARGUMENT, () -> desk.addLift(capacity));
         }
         due("2: addLift(1)", desk.addLift(1), 0);
         due("2: addLift(4)", desk.addLift(4), 1);
         due("2: addLift(2)", desk.addLift(2), 2);
-        Check.throwsIt("2: a fourth lift", STATE, () -> desk.addLift(1));
-        Check.throwsIt("2: a fourth lift of no capacity", ARGUMENT, () -> desk.addLift(0));
-        Check.throwsIt("2: the fourth lift is not there", INDEX, () -> desk.service(3));
+        Check.throwsIt("2: a fourth lift", Check.STATE, () -> desk.addLift(1));
+        Check.throwsIt("2: a fourth lift of no capacity", Check.ARGUMENT, () -> desk.addLift(0));
+        Check.throwsIt("2: the fourth lift is not there", Check.INDEX, () -> desk.service(3));
         for (int lift = 0; lift < 3; lift++) {
             due("2: a new lift's floor", desk.floorOfLift(lift), 0);
             due("2: a new lift's direction", desk.isUp(lift), true);
@@ -95,7 +75,7 @@ public final class PromisesTest {
             due("2: a new lift's riders", desk.aboard(lift), 0);
         }
         for (int capacity = 1; capacity <= 4; capacity++) {
-            LiftDesk full = desk(capacity);
+            LiftDesk full = Desks.of(capacity);
             for (int badge = 0; badge < 8; badge++) {
                 full.call(badge, 0, 9);
             }
@@ -107,12 +87,12 @@ public final class PromisesTest {
     private static void setTenant() {
         LiftDesk desk = new LiftDesk();
         for (int floor : new int[] {Integer.MIN_VALUE, -1, 0, 10, 11, Integer.MAX_VALUE}) {
-            Check.throwsIt("3: setTenant(" + floor + ", 0)", INDEX, () -> desk.setTenant(floor, 0));
+            Check.throwsIt("3: setTenant(" + floor + ", 0)", Check.INDEX, () -> desk.setTenant(floor, 0));
         }
         for (int tenant : new int[] {Integer.MIN_VALUE, -2, 4, 5, Integer.MAX_VALUE}) {
-            Check.throwsIt("3: setTenant(1, " + tenant + ")", ARGUMENT, () -> desk.setTenant(1, tenant));
+            Check.throwsIt("3: setTenant(1, " + tenant + ")", Check.ARGUMENT, () -> desk.setTenant(1, tenant));
         }
-        Check.throwsIt("3: both wrong", INDEX, () -> desk.setTenant(0, 4));
+        Check.throwsIt("3: both wrong", Check.INDEX, () -> desk.setTenant(0, 4));
         for (int floor = 1; floor <= 9; floor++) {
             due("3: at first none", desk.setTenant(floor, floor % 4), -1);
         }
@@ -123,18 +103,18 @@ public final class PromisesTest {
     }
 
     private static void setHours() {
-        LiftDesk desk = desk();
+        LiftDesk desk = Desks.of();
         for (int floor : new int[] {Integer.MIN_VALUE, -1, 0, 10, Integer.MAX_VALUE}) {
-            Check.throwsIt("4: setHours(" + floor + ", 0, 1)", INDEX, () -> desk.setHours(floor, 0, 1));
+            Check.throwsIt("4: setHours(" + floor + ", 0, 1)", Check.INDEX, () -> desk.setHours(floor, 0, 1));
         }
         int[][] wrong = {{-1, 5}, {100, 101}, {5, 5}, {5, 4}, {0, 101}, {0, 0}, {99, 99}, {100, 100}, {50, -1},
             {Integer.MIN_VALUE, 3}, {3, Integer.MAX_VALUE}, {Integer.MAX_VALUE, Integer.MIN_VALUE}};
         for (int[] hours : wrong) {
-            Check.throwsIt("4: setHours(5, " + hours[0] + ", " + hours[1] + ")", ARGUMENT,
+            Check.throwsIt("4: setHours(5, " + hours[0] + ", " + hours[1] + ")", Check.ARGUMENT,
                 () -> desk.setHours(5, hours[0], hours[1]));
             due("4: the hours are as before", desk.reason(0, 5), 'n');
         }
-        Check.throwsIt("4: both wrong", INDEX, () -> desk.setHours(10, 5, 5));
+        Check.throwsIt("4: both wrong", Check.INDEX, () -> desk.setHours(10, 5, 5));
         due("4: setHours(1, 0, 100)", desk.setHours(1, 0, 100), 100);
         due("4: setHours(9, 99, 100)", desk.setHours(9, 99, 100), 1);
         due("4: setHours(2, 0, 1)", desk.setHours(2, 0, 1), 1);
@@ -144,15 +124,15 @@ public final class PromisesTest {
     private static void addBadge() {
         LiftDesk desk = new LiftDesk();
         for (int tenant : new int[] {Integer.MIN_VALUE, -1, 4, Integer.MAX_VALUE}) {
-            Check.throwsIt("5: addBadge(" + tenant + ")", ARGUMENT, () -> desk.addBadge(tenant));
+            Check.throwsIt("5: addBadge(" + tenant + ")", Check.ARGUMENT, () -> desk.addBadge(tenant));
         }
         for (int i = 0; i < 8; i++) {
             due("5: the number of a badge", desk.addBadge(i % 4), i);
             due("5: it is not revoked", desk.setRevoked(i, false), false);
         }
-        Check.throwsIt("5: a ninth badge", STATE, () -> desk.addBadge(0));
-        Check.throwsIt("5: a ninth badge of no tenant", ARGUMENT, () -> desk.addBadge(4));
-        Check.throwsIt("5: the ninth badge is not there", INDEX, () -> desk.reason(8, 0));
+        Check.throwsIt("5: a ninth badge", Check.STATE, () -> desk.addBadge(0));
+        Check.throwsIt("5: a ninth badge of no tenant", Check.ARGUMENT, () -> desk.addBadge(4));
+        Check.throwsIt("5: the ninth badge is not there", Check.INDEX, () -> desk.reason(8, 0));
         for (int tenant = 0; tenant < 4; tenant++) {
             desk.setTenant(3, tenant);
             for (int badge = 0; badge < 8; badge++) {
@@ -166,7 +146,7 @@ public final class PromisesTest {
         desk.addBadge(0);
         desk.addBadge(0);
         for (int badge : new int[] {Integer.MIN_VALUE, -1, 2, Integer.MAX_VALUE}) {
-            Check.throwsIt("6: setRevoked(" + badge + ")", INDEX, () -> desk.setRevoked(badge, true));
+            Check.throwsIt("6: setRevoked(" + badge + ")", Check.INDEX, () -> desk.setRevoked(badge, true));
         }
         due("6: valid at first", desk.setRevoked(0, true), false);
         due("6: revoked already", desk.setRevoked(0, true), true);
@@ -178,12 +158,12 @@ public final class PromisesTest {
     }
 
     private static void reason() {
-        LiftDesk desk = desk();
+        LiftDesk desk = Desks.of();
         for (int badge : new int[] {Integer.MIN_VALUE, -1, 8, Integer.MAX_VALUE}) {
-            Check.throwsIt("7: reason(" + badge + ", 1)", INDEX, () -> desk.reason(badge, 1));
+            Check.throwsIt("7: reason(" + badge + ", 1)", Check.INDEX, () -> desk.reason(badge, 1));
         }
         for (int floor : new int[] {Integer.MIN_VALUE, -1, 10, Integer.MAX_VALUE}) {
-            Check.throwsIt("7: reason(0, " + floor + ")", INDEX, () -> desk.reason(0, floor));
+            Check.throwsIt("7: reason(0, " + floor + ")", Check.INDEX, () -> desk.reason(0, floor));
         }
         desk.setTenant(1, 2);
         desk.setHours(1, 50, 60);
@@ -215,66 +195,66 @@ public final class PromisesTest {
     }
 
     private static void callNumbers() {
-        LiftDesk desk = desk(4);
+        LiftDesk desk = Desks.of(4);
         for (int rider = 0; rider < 30; rider++) {
             due("8: the number of a rider", desk.call(rider % 8, 1, 0), rider);
             desk.pass(5);
         }
         due("8: all are done", desk.doneShare(), 1.0f);
-        Check.throwsIt("8: a rider too many", STATE, () -> desk.call(0, 1, 0));
+        Check.throwsIt("8: a rider too many", Check.STATE, () -> desk.call(0, 1, 0));
         due("8: and nothing was noted", desk.entries(), 90);
-        Check.throwsIt("8: the rider too many is not there", INDEX, () -> desk.state(30));
+        Check.throwsIt("8: the rider too many is not there", Check.INDEX, () -> desk.state(30));
     }
 
     private static void callExceptions() {
-        LiftDesk desk = desk(1);
+        LiftDesk desk = Desks.of(1);
         for (int badge : new int[] {Integer.MIN_VALUE, -1, 8, Integer.MAX_VALUE}) {
-            Check.throwsIt("8: call(" + badge + ", 0, 1)", INDEX, () -> desk.call(badge, 0, 1));
+            Check.throwsIt("8: call(" + badge + ", 0, 1)", Check.INDEX, () -> desk.call(badge, 0, 1));
         }
         for (int floor : new int[] {Integer.MIN_VALUE, -1, 10, Integer.MAX_VALUE}) {
-            Check.throwsIt("8: call(0, " + floor + ", 1)", INDEX, () -> desk.call(0, floor, 1));
-            Check.throwsIt("8: call(0, 1, " + floor + ")", INDEX, () -> desk.call(0, 1, floor));
+            Check.throwsIt("8: call(0, " + floor + ", 1)", Check.INDEX, () -> desk.call(0, floor, 1));
+            Check.throwsIt("8: call(0, 1, " + floor + ")", Check.INDEX, () -> desk.call(0, 1, floor));
         }
-        Check.throwsIt("8: the same floor", ARGUMENT, () -> desk.call(0, 4, 4));
-        Check.throwsIt("8: the lobby twice", ARGUMENT, () -> desk.call(0, 0, 0));
+        Check.throwsIt("8: the same floor", Check.ARGUMENT, () -> desk.call(0, 4, 4));
+        Check.throwsIt("8: the lobby twice", Check.ARGUMENT, () -> desk.call(0, 0, 0));
         desk.setTenant(5, 1);
-        Check.throwsIt("8: of another tenant", UNSUPPORTED, () -> desk.call(0, 0, 5));
+        Check.throwsIt("8: of another tenant", Check.UNSUPPORTED, () -> desk.call(0, 0, 5));
         desk.setHours(6, 10, 20);
-        Check.throwsIt("8: out of hours", UNSUPPORTED, () -> desk.call(0, 0, 6));
+        Check.throwsIt("8: out of hours", Check.UNSUPPORTED, () -> desk.call(0, 0, 6));
         desk.setRevoked(0, true);
-        Check.throwsIt("8: revoked", UNSUPPORTED, () -> desk.call(0, 0, 1));
+        Check.throwsIt("8: revoked", Check.UNSUPPORTED, () -> desk.call(0, 0, 1));
         due("8: a revoked badge may go to the lobby, from anywhere", desk.call(0, 5, 0), 0);
-        Check.throwsIt("8: the badge has a rider", STATE, () -> desk.call(0, 5, 0));
+        Check.throwsIt("8: the badge has a rider", Check.STATE, () -> desk.call(0, 5, 0));
         due("8: entries", desk.entries(), 1);
         desk.pass(7);
-        Check.throwsIt("8: the badge has a rider aboard", STATE, () -> desk.call(0, 5, 0));
+        Check.throwsIt("8: the badge has a rider aboard", Check.STATE, () -> desk.call(0, 5, 0));
         due("8: the rider is done", desk.pass(10), 1);
         due("8: the badge can call again", desk.call(0, 5, 0), 1);
         desk.alarm(5);
-        Check.throwsIt("8: an alarm", STATE, () -> desk.call(1, 0, 1));
+        Check.throwsIt("8: an alarm", Check.STATE, () -> desk.call(1, 0, 1));
     }
 
     private static void callExceptionsInOrder() {
-        LiftDesk desk = desk(1);
+        LiftDesk desk = Desks.of(1);
         desk.setTenant(5, 1);
         desk.call(0, 1, 0);
-        Check.throwsIt("8: no badge and the same floor", INDEX, () -> desk.call(8, 3, 3));
-        Check.throwsIt("8: no floor twice", INDEX, () -> desk.call(0, 10, 10));
-        Check.throwsIt("8: the same floor, no entry", ARGUMENT, () -> desk.call(0, 5, 5));
-        Check.throwsIt("8: no entry, and it has a rider", UNSUPPORTED, () -> desk.call(0, 0, 5));
+        Check.throwsIt("8: no badge and the same floor", Check.INDEX, () -> desk.call(8, 3, 3));
+        Check.throwsIt("8: no floor twice", Check.INDEX, () -> desk.call(0, 10, 10));
+        Check.throwsIt("8: the same floor, no entry", Check.ARGUMENT, () -> desk.call(0, 5, 5));
+        Check.throwsIt("8: no entry, and it has a rider", Check.UNSUPPORTED, () -> desk.call(0, 0, 5));
         desk.alarm(1);
-        Check.throwsIt("8: no entry, in an alarm", UNSUPPORTED, () -> desk.call(0, 0, 5));
-        Check.throwsIt("8: the same floor, in an alarm", ARGUMENT, () -> desk.call(2, 2, 2));
+        Check.throwsIt("8: no entry, in an alarm", Check.UNSUPPORTED, () -> desk.call(0, 0, 5));
+        Check.throwsIt("8: the same floor, in an alarm", Check.ARGUMENT, () -> desk.call(2, 2, 2));
     }
 
     private static void callGivesALift() {
-        LiftDesk desk = desk();
+        LiftDesk desk = Desks.of();
         desk.call(0, 3, 0);
-        Check.throwsIt("8: there is no lift", NO_ELEMENT, () -> desk.liftOf(0));
+        Check.throwsIt("8: there is no lift", Check.NO_ELEMENT, () -> desk.liftOf(0));
         desk.addLift(4);
         desk.addLift(4);
         desk.addLift(4);
-        Check.throwsIt("8: a new lift is given by a tick alone", NO_ELEMENT, () -> desk.liftOf(0));
+        Check.throwsIt("8: a new lift is given by a tick alone", Check.NO_ELEMENT, () -> desk.liftOf(0));
         due("8: of equal scores the lowest number", desk.liftOf(desk.call(1, 0, 1)), 0);
         due("8: the least score", desk.liftOf(desk.call(2, 0, 1)), 1);
         due("8: the least score again", desk.liftOf(desk.call(3, 9, 1)), 2);
@@ -286,12 +266,12 @@ public final class PromisesTest {
     }
 
     private static void state() {
-        LiftDesk desk = desk(1);
+        LiftDesk desk = Desks.of(1);
         desk.call(0, 1, 2);
         for (int rider : FAR_OUT) {
-            Check.throwsIt("9: state(" + rider + ")", INDEX, () -> desk.state(rider));
+            Check.throwsIt("9: state(" + rider + ")", Check.INDEX, () -> desk.state(rider));
         }
-        Check.throwsIt("9: the next rider", INDEX, () -> desk.state(1));
+        Check.throwsIt("9: the next rider", Check.INDEX, () -> desk.state(1));
         String states = "";
         for (int tick = 0; tick < 5; tick++) {
             states += desk.state(0);
@@ -304,10 +284,10 @@ public final class PromisesTest {
     }
 
     private static void floorOf() {
-        LiftDesk desk = desk(1);
+        LiftDesk desk = Desks.of(1);
         desk.call(0, 1, 3);
         for (int rider : FAR_OUT) {
-            Check.throwsIt("10: floorOf(" + rider + ")", INDEX, () -> desk.floorOf(rider));
+            Check.throwsIt("10: floorOf(" + rider + ")", Check.INDEX, () -> desk.floorOf(rider));
         }
         int[] floors = {1, 1, 1, 2, 3, 3, 3};
         for (int tick = 0; tick < floors.length; tick++) {
@@ -324,11 +304,11 @@ public final class PromisesTest {
     }
 
     private static void aim() {
-        LiftDesk desk = desk(1);
+        LiftDesk desk = Desks.of(1);
         desk.call(0, 1, 3);
         desk.call(1, 2, 4);
         for (int rider : FAR_OUT) {
-            Check.throwsIt("11: aim(" + rider + ")", INDEX, () -> desk.aim(rider));
+            Check.throwsIt("11: aim(" + rider + ")", Check.INDEX, () -> desk.aim(rider));
         }
         due("11: waiting", desk.aim(0), 3);
         desk.pass(2);
@@ -349,30 +329,30 @@ public final class PromisesTest {
     }
 
     private static void liftOf() {
-        LiftDesk desk = desk(1, 1);
+        LiftDesk desk = Desks.of(1, 1);
         desk.call(0, 1, 3);
         desk.call(1, 1, 3);
         for (int rider : FAR_OUT) {
-            Check.throwsIt("12: liftOf(" + rider + ")", INDEX, () -> desk.liftOf(rider));
+            Check.throwsIt("12: liftOf(" + rider + ")", Check.INDEX, () -> desk.liftOf(rider));
         }
         due("12: waiting", desk.liftOf(1), 1);
         desk.pass(3);
         due("12: aboard", desk.liftOf(1), 1);
         desk.pass(30);
-        Check.throwsIt("12: done", NO_ELEMENT, () -> desk.liftOf(1));
+        Check.throwsIt("12: done", Check.NO_ELEMENT, () -> desk.liftOf(1));
         desk.call(0, 1, 3);
         desk.alarm(2);
-        Check.throwsIt("12: lost by the alarm", NO_ELEMENT, () -> desk.liftOf(2));
+        Check.throwsIt("12: lost by the alarm", Check.NO_ELEMENT, () -> desk.liftOf(2));
     }
 
     private static void waited() {
-        LiftDesk desk = desk(1);
+        LiftDesk desk = Desks.of(1);
         desk.pass(5);
         desk.call(0, 2, 0);
         desk.call(1, 2, 0);
         for (int rider : FAR_OUT) {
-            Check.throwsIt("13: waited(" + rider + ")", INDEX, () -> desk.waited(rider));
-            Check.throwsIt("14: waitedByLog(" + rider + ")", INDEX, () -> desk.waitedByLog(rider));
+            Check.throwsIt("13: waited(" + rider + ")", Check.INDEX, () -> desk.waited(rider));
+            Check.throwsIt("14: waitedByLog(" + rider + ")", Check.INDEX, () -> desk.waitedByLog(rider));
         }
         // Up in two ticks, aboard in the third, down in two, out in the sixth; the same again for the second rider.
         int[] first = {0, 1, 2, 2, 2, 2, 2, 2, 2, 2, 2, 2, 2};
@@ -384,7 +364,7 @@ public final class PromisesTest {
             due("14: waitedByLog(1) at " + tick, desk.waitedByLog(1), second[tick]);
             desk.pass(1);
         }
-        LiftDesk closed = desk();
+        LiftDesk closed = Desks.of();
         closed.call(0, 0, 5);
         closed.pass(7);
         closed.alarm(1);
@@ -394,7 +374,7 @@ public final class PromisesTest {
     }
 
     private static void entries() {
-        LiftDesk desk = desk(4);
+        LiftDesk desk = Desks.of(4);
         desk.call(0, 0, 1);
         due("15: called", desk.entries(), 1);
         desk.call(1, 0, 1);
@@ -417,9 +397,9 @@ public final class PromisesTest {
     }
 
     private static void callOff() {
-        LiftDesk desk = desk(2, 2);
+        LiftDesk desk = Desks.of(2, 2);
         for (int lift : new int[] {Integer.MIN_VALUE, -1, 2, Integer.MAX_VALUE}) {
-            Check.throwsIt("16: callOff(" + lift + ")", INDEX, () -> desk.callOff(lift));
+            Check.throwsIt("16: callOff(" + lift + ")", Check.INDEX, () -> desk.callOff(lift));
         }
         desk.call(0, 0, 9);
         desk.call(1, 0, 9);
@@ -431,27 +411,27 @@ public final class PromisesTest {
         due("16: the lift of the fourth", desk.liftOf(3), 1);
         due("16: the lift of the fifth", desk.liftOf(4), 0);
         due("16: callOff(0)", desk.callOff(0), 1);
-        Check.throwsIt("16: the fifth lost it", NO_ELEMENT, () -> desk.liftOf(4));
+        Check.throwsIt("16: the fifth lost it", Check.NO_ELEMENT, () -> desk.liftOf(4));
         due("16: those aboard stay", desk.aboard(0), 2);
         due("16: the fourth keeps the other one", desk.liftOf(3), 1);
-        Check.throwsIt("16: it is called off", STATE, () -> desk.callOff(0));
+        Check.throwsIt("16: it is called off", Check.STATE, () -> desk.callOff(0));
         desk.pass(1);
         due("16: by a tick the fifth has the other one", desk.liftOf(4), 1);
         desk.pass(20);
         due("16: it is being cleaned", desk.service(0), 'c');
-        Check.throwsIt("16: not while it is being cleaned", STATE, () -> desk.callOff(0));
+        Check.throwsIt("16: not while it is being cleaned", Check.STATE, () -> desk.callOff(0));
         desk.call(5, 0, 9);
         desk.call(6, 5, 9);
         desk.alarm(3);
-        Check.throwsIt("16: not in an alarm", STATE, () -> desk.callOff(1));
-        Check.throwsIt("16: no such lift, in an alarm", INDEX, () -> desk.callOff(2));
-        due("16: nobody waits for it", desk(1).callOff(0), 0);
+        Check.throwsIt("16: not in an alarm", Check.STATE, () -> desk.callOff(1));
+        Check.throwsIt("16: no such lift, in an alarm", Check.INDEX, () -> desk.callOff(2));
+        due("16: nobody waits for it", Desks.of(1).callOff(0), 0);
     }
 
     private static void service() {
-        LiftDesk desk = desk(1);
+        LiftDesk desk = Desks.of(1);
         for (int lift : new int[] {Integer.MIN_VALUE, -1, 1, Integer.MAX_VALUE}) {
-            Check.throwsIt("17: service(" + lift + ")", INDEX, () -> desk.service(lift));
+            Check.throwsIt("17: service(" + lift + ")", Check.INDEX, () -> desk.service(lift));
         }
         desk.call(0, 0, 2);
         desk.pass(1);
@@ -465,14 +445,14 @@ public final class PromisesTest {
         // Two floors up, the rider leaves, the cleaning begins in the fourth tick, and takes twenty more.
         due("17: services", services, "oooo" + "c".repeat(20) + "ssssss");
         due("17: taken in the tick behind the cleaning", desk.waited(1), 24);
-        Check.throwsIt("17: in the lobby without aims", INDEX, () -> desk.service(1));
+        Check.throwsIt("17: in the lobby without aims", Check.INDEX, () -> desk.service(1));
     }
 
     private static void floorOfLiftAndIsUp() {
-        LiftDesk desk = desk(1);
+        LiftDesk desk = Desks.of(1);
         for (int lift : new int[] {Integer.MIN_VALUE, -1, 1, Integer.MAX_VALUE}) {
-            Check.throwsIt("18: floorOfLift(" + lift + ")", INDEX, () -> desk.floorOfLift(lift));
-            Check.throwsIt("19: isUp(" + lift + ")", INDEX, () -> desk.isUp(lift));
+            Check.throwsIt("18: floorOfLift(" + lift + ")", Check.INDEX, () -> desk.floorOfLift(lift));
+            Check.throwsIt("19: isUp(" + lift + ")", Check.INDEX, () -> desk.isUp(lift));
         }
         desk.call(0, 2, 0);
         desk.call(1, 3, 4);
@@ -490,7 +470,7 @@ public final class PromisesTest {
     }
 
     private static void roomMakesAimsAhead() {
-        LiftDesk desk = desk(2);
+        LiftDesk desk = Desks.of(2);
         desk.call(0, 2, 0);
         desk.call(1, 3, 4);
         String floors = "";
@@ -504,9 +484,9 @@ public final class PromisesTest {
     }
 
     private static void aboard() {
-        LiftDesk desk = desk(2, 2);
+        LiftDesk desk = Desks.of(2, 2);
         for (int lift : new int[] {Integer.MIN_VALUE, -1, 2, Integer.MAX_VALUE}) {
-            Check.throwsIt("20: aboard(" + lift + ")", INDEX, () -> desk.aboard(lift));
+            Check.throwsIt("20: aboard(" + lift + ")", Check.INDEX, () -> desk.aboard(lift));
         }
         for (int badge = 0; badge < 6; badge++) {
             desk.call(badge, 0, badge + 1);
@@ -522,12 +502,12 @@ public final class PromisesTest {
     }
 
     private static void score() {
-        LiftDesk desk = desk(2, 2);
+        LiftDesk desk = Desks.of(2, 2);
         for (int lift : new int[] {Integer.MIN_VALUE, -1, 2, Integer.MAX_VALUE}) {
-            Check.throwsIt("21: score(" + lift + ", 0)", INDEX, () -> desk.score(lift, 0));
+            Check.throwsIt("21: score(" + lift + ", 0)", Check.INDEX, () -> desk.score(lift, 0));
         }
         for (int floor : new int[] {Integer.MIN_VALUE, -1, 10, Integer.MAX_VALUE}) {
-            Check.throwsIt("21: score(0, " + floor + ")", INDEX, () -> desk.score(0, floor));
+            Check.throwsIt("21: score(0, " + floor + ")", Check.INDEX, () -> desk.score(0, floor));
         }
         due("21: the same floor", desk.score(0, 0), 0);
         due("21: nine floors", desk.score(0, 9), 9);
@@ -548,9 +528,9 @@ public final class PromisesTest {
     }
 
     private static void pass() {
-        LiftDesk desk = desk(4);
+        LiftDesk desk = Desks.of(4);
         for (int ticks : new int[] {Integer.MIN_VALUE, -1, 0, 101, Integer.MAX_VALUE}) {
-            Check.throwsIt("22: pass(" + ticks + ")", ARGUMENT, () -> desk.pass(ticks));
+            Check.throwsIt("22: pass(" + ticks + ")", Check.ARGUMENT, () -> desk.pass(ticks));
         }
         due("22: nobody is there", desk.pass(100), 0);
         desk.call(0, 0, 1);
@@ -566,23 +546,23 @@ public final class PromisesTest {
     }
 
     private static void time() {
-        LiftDesk desk = desk(1);
+        LiftDesk desk = Desks.of(1);
         desk.pass(1);
         due("23: one", desk.time(), 1);
         desk.pass(100);
         due("23: it does not begin again with the day", desk.time(), 101);
-        Check.throwsIt("23: a wrong number", ARGUMENT, () -> desk.pass(101));
+        Check.throwsIt("23: a wrong number", Check.ARGUMENT, () -> desk.pass(101));
         due("23: nothing passed", desk.time(), 101);
         desk.call(0, 0, 1);
         due("23: a call takes no time", desk.time(), 101);
     }
 
     private static void alarm() {
-        LiftDesk desk = desk(1);
+        LiftDesk desk = Desks.of(1);
         for (int floor : new int[] {Integer.MIN_VALUE, -1, 10, Integer.MAX_VALUE}) {
-            Check.throwsIt("24: alarm(" + floor + ")", INDEX, () -> desk.alarm(floor));
+            Check.throwsIt("24: alarm(" + floor + ")", Check.INDEX, () -> desk.alarm(floor));
         }
-        Check.throwsIt("24: nobody is there", STATE, () -> desk.alarm(5));
+        Check.throwsIt("24: nobody is there", Check.STATE, () -> desk.alarm(5));
         desk.call(0, 0, 9);
         desk.pass(3);
         desk.call(1, 0, 9);
@@ -591,18 +571,18 @@ public final class PromisesTest {
         due("24: two in the lobby are done", desk.alarm(0), 2);
         due("24: states", "" + desk.state(0) + desk.state(1) + desk.state(2) + desk.state(3), "adwd");
         due("24: aims", "" + desk.aim(0) + desk.aim(1) + desk.aim(2) + desk.aim(3), "0000");
-        Check.throwsIt("24: the one who waits has no lift", NO_ELEMENT, () -> desk.liftOf(2));
+        Check.throwsIt("24: the one who waits has no lift", Check.NO_ELEMENT, () -> desk.liftOf(2));
         due("24: the one aboard has", desk.liftOf(0), 0);
-        Check.throwsIt("24: there is one", STATE, () -> desk.alarm(0));
-        Check.throwsIt("24: no floor, though there is one", INDEX, () -> desk.alarm(10));
+        Check.throwsIt("24: there is one", Check.STATE, () -> desk.alarm(0));
+        Check.throwsIt("24: no floor, though there is one", Check.INDEX, () -> desk.alarm(10));
         due("24: all are done", desk.pass(20), 2);
-        Check.throwsIt("24: all are done", STATE, () -> desk.alarm(0));
+        Check.throwsIt("24: all are done", Check.STATE, () -> desk.alarm(0));
         alarmLeavesCleaningAlone();
         alarmGivesAnewAtEachTick();
     }
 
     private static void alarmLeavesCleaningAlone() {
-        LiftDesk desk = desk(1, 1);
+        LiftDesk desk = Desks.of(1, 1);
         desk.call(0, 0, 4);
         desk.pass(3);
         desk.callOff(0);
@@ -615,7 +595,7 @@ public final class PromisesTest {
         desk.pass(4);
         due("24: it brought its rider to the lobby", desk.state(0), 'd');
         due("24: it passed the one who waits", desk.state(1), 'w');
-        Check.throwsIt("24: none is in service", NO_ELEMENT, () -> desk.liftOf(1));
+        Check.throwsIt("24: none is in service", Check.NO_ELEMENT, () -> desk.liftOf(1));
         desk.pass(1);
         due("24: its cleaning begins", desk.service(0), 'c');
         due("24: it waits for the cleaning", desk.pass(15), 0);
@@ -625,7 +605,7 @@ public final class PromisesTest {
     }
 
     private static void alarmGivesAnewAtEachTick() {
-        LiftDesk desk = desk(1, 1);
+        LiftDesk desk = Desks.of(1, 1);
         desk.call(0, 5, 0);
         desk.call(1, 7, 0);
         desk.call(2, 5, 0);
@@ -633,8 +613,8 @@ public final class PromisesTest {
         desk.pass(1);
         due("24: the floor above has the turn", desk.turn(), 7);
         due("24: its rider has a lift", desk.liftOf(1), 0);
-        Check.throwsIt("24: the others have none", NO_ELEMENT, () -> desk.liftOf(0));
-        Check.throwsIt("24: the others have none", NO_ELEMENT, () -> desk.liftOf(2));
+        Check.throwsIt("24: the others have none", Check.NO_ELEMENT, () -> desk.liftOf(0));
+        Check.throwsIt("24: the others have none", Check.NO_ELEMENT, () -> desk.liftOf(2));
         due("24: the other lift stays", desk.floorOfLift(1), 0);
         desk.pass(7);
         due("24: it is fetched", desk.state(1), 'a');
@@ -648,7 +628,7 @@ public final class PromisesTest {
     }
 
     private static void isAlarm() {
-        LiftDesk desk = desk(1);
+        LiftDesk desk = Desks.of(1);
         desk.call(0, 0, 1);
         due("25: not yet", desk.isAlarm(), false);
         desk.alarm(3);
@@ -666,16 +646,16 @@ public final class PromisesTest {
     }
 
     private static void turn() {
-        LiftDesk desk = desk();
-        Check.throwsIt("26: no alarm", NO_ELEMENT, desk::turn);
+        LiftDesk desk = Desks.of();
+        Check.throwsIt("26: no alarm", Check.NO_ELEMENT, desk::turn);
         desk.call(0, 0, 1);
-        Check.throwsIt("26: no alarm, though somebody waits", NO_ELEMENT, desk::turn);
+        Check.throwsIt("26: no alarm, though somebody waits", Check.NO_ELEMENT, desk::turn);
         desk.alarm(1);
-        Check.throwsIt("26: nobody waits", NO_ELEMENT, desk::turn);
+        Check.throwsIt("26: nobody waits", Check.NO_ELEMENT, desk::turn);
         int[][] turns = {{5, 4, 6, 6}, {5, 4, 7, 4}, {5, 3, 7, 7}, {5, 5, 6, 5}, {9, 1, 8, 8}, {0, 9, 8, 8},
             {9, 9, 1, 9}, {1, 9, 8, 8}, {4, 1, 9, 1}, {6, 1, 9, 9}, {0, 1, 9, 1}, {8, 3, 9, 9}};
         for (int[] row : turns) {
-            LiftDesk other = desk();
+            LiftDesk other = Desks.of();
             other.call(0, row[1], 0);
             other.call(1, row[2], 0);
             other.alarm(row[0]);
@@ -683,21 +663,21 @@ public final class PromisesTest {
         }
         for (int floor = 0; floor < 10; floor++) {
             for (int from = 1; from < 10; from++) {
-                LiftDesk other = desk();
+                LiftDesk other = Desks.of();
                 other.call(0, from, 0);
                 other.alarm(floor);
                 due("26: alarm on " + floor + ", waiting on " + from, other.turn(), from);
             }
         }
-        LiftDesk last = desk(1);
+        LiftDesk last = Desks.of(1);
         last.call(0, 1, 0);
         last.alarm(1);
         last.pass(2);
-        Check.throwsIt("26: all who are there are aboard", NO_ELEMENT, last::turn);
+        Check.throwsIt("26: all who are there are aboard", Check.NO_ELEMENT, last::turn);
     }
 
     private static void opened() {
-        LiftDesk desk = desk(4, 4);
+        LiftDesk desk = Desks.of(4, 4);
         desk.call(0, 0, 1);
         desk.call(1, 0, 1);
         desk.call(2, 0, 2);
@@ -719,7 +699,7 @@ public final class PromisesTest {
     }
 
     private static void refused() {
-        LiftDesk desk = desk(2);
+        LiftDesk desk = Desks.of(2);
         desk.setTenant(5, 0);
         desk.call(0, 0, 5);
         desk.call(1, 0, 4);
@@ -745,7 +725,7 @@ public final class PromisesTest {
     }
 
     private static void dayTurnsMidway() {
-        LiftDesk desk = desk(1);
+        LiftDesk desk = Desks.of(1);
         desk.setHours(3, 90, 100);
         desk.pass(95);
         desk.call(0, 0, 3);
@@ -760,8 +740,8 @@ public final class PromisesTest {
     }
 
     private static void doneShare() {
-        LiftDesk desk = desk(4);
-        Check.throwsIt("29: nobody called", ARITHMETIC, desk::doneShare);
+        LiftDesk desk = Desks.of(4);
+        Check.throwsIt("29: nobody called", Check.ARITHMETIC, desk::doneShare);
         desk.call(0, 0, 1);
         due("29: none", desk.doneShare(), 0.0f);
         desk.pass(3);
@@ -774,8 +754,8 @@ public final class PromisesTest {
     }
 
     private static void meanWait() {
-        LiftDesk desk = desk(4);
-        Check.throwsIt("30: nobody called", ARITHMETIC, desk::meanWait);
+        LiftDesk desk = Desks.of(4);
+        Check.throwsIt("30: nobody called", Check.ARITHMETIC, desk::meanWait);
         desk.call(0, 0, 1);
         due("30: nothing yet", desk.meanWait(), 0.0);
         desk.pass(1);
