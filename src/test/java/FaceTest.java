@@ -1,12 +1,8 @@
-import java.lang.reflect.Executable;
 import java.lang.reflect.Field;
 import java.lang.reflect.Method;
 import java.lang.reflect.Modifier;
-import java.util.Arrays;
 import java.util.List;
 import java.util.TreeSet;
-import java.util.stream.Collectors;
-import java.util.stream.Stream;
 
 /** The class shows the document's face, and nothing but it. */
 public final class FaceTest {
@@ -47,12 +43,7 @@ public final class FaceTest {
 
     public static void main(String[] args) {
         Check.due("modifiers", Modifier.toString(LiftDesk.class.getModifiers()), "public final");
-        Stream<String> constructors = Arrays.stream(LiftDesk.class.getDeclaredConstructors())
-            .filter(c -> !Modifier.isPrivate(c.getModifiers())).map(FaceTest::textOf);
-        Stream<String> methods = Arrays.stream(LiftDesk.class.getDeclaredMethods())
-            .filter(m -> !Modifier.isPrivate(m.getModifiers())).map(FaceTest::textOf);
-        TreeSet<String> shown = Stream.concat(constructors, methods).collect(Collectors.toCollection(TreeSet::new));
-        Check.due("the face", String.join("\n", shown), String.join("\n", new TreeSet<>(FACE)));
+        Check.due("the face", String.join("\n", Face.shown()), String.join("\n", new TreeSet<>(FACE)));
         for (Field field : LiftDesk.class.getDeclaredFields()) {
             Check.due("private: " + field.getName(), Modifier.isPrivate(field.getModifiers()), true);
         }
@@ -62,21 +53,5 @@ public final class FaceTest {
             Check.due("name of the face: " + method.getName(), hasNameOfFace, isShown);
         }
         Check.end();
-    }
-
-    private static String textOf(Executable executable) {
-        String name = executable.getName();
-        if (executable instanceof Method method) {
-            name = method.getReturnType().getSimpleName() + " " + name;
-        }
-        String parameters = namesOf(executable.getParameterTypes(), ", ");
-        String exceptions = namesOf(executable.getExceptionTypes(), " ");
-        boolean isPublic = Modifier.toString(executable.getModifiers()).equals("public");
-        return (isPublic ? "" : "not public: ") + name + "(" + parameters + ")"
-            + (exceptions.isEmpty() ? "" : " " + exceptions);
-    }
-
-    private static String namesOf(Class<?>[] types, String between) {
-        return Arrays.stream(types).map(Class::getSimpleName).collect(Collectors.joining(between));
     }
 }
